@@ -33,8 +33,7 @@ public final class SnakeBoard {
     private int tapeLength = 0;
     private int faultPlace = NONE;
     private Rules rules = new Rules();
-    private Rules spareRules = new Rules();
-    private final Reader reader = new Reader();
+    private final Reader reader = new Reader(tape);
     private final Paths paths = new Paths();
     private final Paths otherPaths = new Paths();
     private final State state = new State();
@@ -78,16 +77,14 @@ public final class SnakeBoard {
             throw new IllegalArgumentException();
         }
         tapeLength = 0;
-        int found = reader.read(tape, n, spareRules);
+        int found = reader.read(n);
         if (found != 0) {
             faultPlace = reader.start;
             state.refuse(REFUSED_TEXTS);
             return found;
         }
         faultPlace = NONE;
-        Rules old = rules;
-        rules = spareRules;
-        spareRules = old;
+        rules = reader.exchange(rules);
         startAnew();
         return 0;
     }
@@ -597,7 +594,7 @@ public final class SnakeBoard {
         int pieces;
         int exits;
         final Formula formula = new Formula();
-        private final int[] odds = new int[FACES + 1];
+        final int[] odds = new int[FACES + 1];
         private final int[] feet = new int[MOST_EXITS];
         private final int[] heads = new int[MOST_EXITS];
         private final boolean[] isFoot = new boolean[MOST_SQUARES];
@@ -816,22 +813,28 @@ public final class SnakeBoard {
         private static final int MOST_NOTS = 6;
 
         int start;
-        private char[] text = new char[0];
+        private final char[] text;
         private int end;
         private int stop;
         private int kind;
         private int found;
         private int told;
-        private Rules into = null;
+        private Rules into = new Rules();
 
-        /** Answers the FAULT, or 0; start is its place then. */
-        int read(char[] bytes, int length, Rules rules) {
-            if (bytes == null || rules == null) {
-                return UNFIT;
-            }
-            text = bytes;
-            end = Math.max(0, Math.min(length, bytes.length));
-            into = rules;
+        Reader(char[] text) {
+            this.text = text;
+        }
+
+        /** What was read, for rules over which the next text may be read. */
+        Rules exchange(Rules old) {
+            Rules read = into;
+            into = old;
+            return read;
+        }
+
+        /** Answers the FAULT, or 0; start is the FAULT's place then. */
+        int read(int length) {
+            end = Math.max(0, Math.min(length, text.length));
             into.clear();
             found = 0;
             told = 0;
@@ -1243,11 +1246,11 @@ public final class SnakeBoard {
 
     /** Where one goes from each SQUARE by each FACE (and by 0, which ONE LESS asks for). */
     private static final class Paths {
-        private static final int STEPS = FACES + 1;
+        static final int STEPS = FACES + 1;
 
         private final int[] headAt = new int[MOST_SQUARES];
         private final int[] far = new int[MOST_SQUARES * STEPS];
-        private final int[] leads = new int[MOST_SQUARES * STEPS];
+        final int[] leads = new int[MOST_SQUARES * STEPS];
 
         void takeFeet(Rules rules) {
             Arrays.fill(headAt, 0);
@@ -1574,31 +1577,38 @@ public final class SnakeBoard {
         }
 
         void share(Rules rules, Paths paths) {
-            int all = rules.allOdds;
-            if (all <= 0) {
-                return;
-            }
             Arrays.fill(shared, 0);
-            for (int square = 0; square < home; square++) {
-                long here = on(square);
-                if (here == 0) {
-                    continue;
+            for (int square = 0; square < home && square < lying.length; square++) {
+                if (lying[square] != 0) {
+                    shareOut(rules, paths, square, lying[square]);
                 }
-                long left = here;
-                for (int face = rules.leastFace + 1; face <= FACES; face++) {
-                    int odds = rules.oddsOf(face);
-                    if (odds > 0) {
-                        long part = here * odds / all;
-                        left -= part;
-                        add(shared, paths.to(square, face), part);
-                    }
-                }
-                add(shared, paths.to(square, rules.leastFace), left);
             }
             add(shared, home, on(home));
             long[] old = lying;
             lying = shared;
             shared = old;
+        }
+
+        /** The dearest part of the class by far: it reads its rows without the small functions about them. */
+        private void shareOut(Rules rules, Paths paths, int square, long here) {
+            int[] odds = rules.odds;
+            int[] leads = paths.leads;
+            int row = square * Paths.STEPS;
+            int all = rules.allOdds;
+            int least = rules.leastFace;
+            if (all <= 0 || least <= 0 || row < 0 || row + FACES >= leads.length) {
+                return;
+            }
+            long left = here;
+            for (int face = least + 1; face <= FACES && face < odds.length; face++) {
+                int to = leads[row + face];
+                if (odds[face] != 0 && to >= 0 && to < shared.length) {
+                    long part = here * odds[face] / all;
+                    left -= part;
+                    shared[to] += part;
+                }
+            }
+            add(shared, paths.to(square, least), left);
         }
 
         /** LONG by n throws from a SQUARE. */
@@ -1665,9 +1675,10 @@ public final class SnakeBoard {
                     continue;
                 }
                 long byOne = at(paths.to(square, one));
-                for (int two = 1; two <= FACES; two++) {
+                sum += odds * odds * byOne;
+                for (int two = one + 1; two <= FACES; two++) {
                     long byTwo = at(paths.to(square, two));
-                    sum += odds * rules.oddsOf(two) * Math.min(byOne, byTwo);
+                    sum += 2 * odds * rules.oddsOf(two) * Math.min(byOne, byTwo);
                 }
             }
             return sum;
@@ -1683,10 +1694,12 @@ public final class SnakeBoard {
             }
             for (int i = 0; i < n; i++) {
                 for (int one = 0; one <= home; one++) {
-                    for (int two = 0; two <= home; two++) {
+                    for (int two = one; two <= home; two++) {
                         boolean over = one == home && two == home;
                         long value = over ? 0 : ALL_GRAINS + sumOfBoth(rules, paths, one, two) / all;
+                        // it is the same whichever of the two is called the first
                         putNext(one * (home + 1) + two, value);
+                        putNext(two * (home + 1) + one, value);
                     }
                 }
                 swap();
