@@ -1706,6 +1706,7 @@ public final class SnakeBoard {
             }
         }
 
+        /** Of two that aren't both HOME; if one is, it is the second. */
         private long sumOfBoth(Rules rules, Paths paths, int one, int two) {
             long sum = 0;
             for (int face = 1; face <= FACES; face++) {
@@ -1715,11 +1716,7 @@ public final class SnakeBoard {
                 }
                 long byOne = atBoth(rules, paths.to(one, face), two);
                 long byTwo = atBoth(rules, one, paths.to(two, face));
-                if (one == rules.last) {
-                    sum += odds * byTwo;
-                } else {
-                    sum += odds * (two == rules.last ? byOne : Math.min(byOne, byTwo));
-                }
+                sum += odds * (two == rules.last ? byOne : Math.min(byOne, byTwo));
             }
             return sum;
         }

@@ -227,6 +227,11 @@ public final class SnakeBoardPromises {
         text("again;", 1, 5);
         text("pieces x;", 1, 7);
         text("{", 1, 0);
+        text("`", 1, 0);
+        text("exit 3 9:", 1, 8);
+        text("goes 1 { 2;", 1, 7);
+        text("goes {;", 1, 5);
+        text("goes :;", 1, 5);
         text("meet" + (char) 233 + ";", 1, 4);
     }
 
@@ -279,6 +284,8 @@ public final class SnakeBoardPromises {
         text("goes;", 1, 4);
         text("goes foo;", 3, 5);
         text("goes or;", 3, 5);
+        text("goes az;", 3, 5);
+        text("goes za;", 3, 5);
         text("goes 1 or and 1;", 3, 10);
         text("goes 1 foo;", 1, 7);
         text("goes 1 throw;", 1, 7);
@@ -661,6 +668,8 @@ public final class SnakeBoardPromises {
         due(20, "half(-1)", () -> six.half(-1), NONE_SUCH);
         SnakeBoard coin = on("last 10;die 1 1 0 0 0 0;");
         due(20, "half is enough", () -> coin.half(9), 1);
+        due(20, "400 throws", () -> on("last 60;die 1 9 9 5 0 0;goes throw=1;").half(43), 400);
+        due(20, "401 throws", () -> on("last 60;die 2 9 9 7 0 0;goes throw=1;").half(30), -1);
     }
 
     private static void firsts() {
@@ -844,6 +853,10 @@ public final class SnakeBoardPromises {
         due(34, "3 of 4, not 4 of 5", () -> only.less(), 2);
         only.note(10);
         due(34, "what can come is none", () -> only.less(), 2);
+        SnakeBoard more = on("goes throw+2;");
+        more.note(2);
+        more.note(12);
+        due(34, "2 by a 0", () -> more.less(), 1);
         SnakeBoard full = new SnakeBoard();
         for (int i = 1; i <= 40; i++) {
             int many = i;
@@ -943,6 +956,10 @@ public final class SnakeBoardPromises {
         SnakeBoard thirds = on("last 10;die 1 1 1 0 0 0;");
         // with 9 and 9: a 1 brings one HOME, the other then needs 1 and 2/3 throws of two; else all stays
         due(37, "cut down", () -> thirds.together(9, 10, 3), GRAINS + 2 * (GRAINS + 2 * GRAINS / 3) / 3);
+        SnakeBoard wide = on("last 40;die 0 0 0 0 0 1;end in;");
+        due(37, "the last squares of 40", () -> wide.together(39, 38, 60), 2 * GRAINS);
+        due(37, "one of 40 is HOME", () -> wide.together(40, 39, 60), GRAINS);
+        due(38, "of 40", () -> wide.whom(39, 40, 6, 60) * 10 + wide.whom(40, 39, 6, 60), 1);
         SnakeBoard trap = on("last 12;exit 6 1;die 0 0 0 0 0 1;");
         // the one that is HOME can't go in place of the other
         due(37, "the other one must go", () -> trap.together(6, 12, 5), GRAINS);
@@ -976,6 +993,8 @@ public final class SnakeBoardPromises {
         due(39, "one behind", () -> x.written(want.length()), NONE_SUCH);
         due(39, "-2", () -> x.written(-2), NONE_SUCH);
         due(39, "it reads the same", () -> read(x, want) + written(x), 0 + want);
+        SnakeBoard wide = on("last 100;exit 99 100;exit 10 9;");
+        due(39, "three digits", () -> written(wide), "last 100;die 1 1 1 1 1 1;exit 99 100;exit 10 9;end stay;pieces 2;");
         SnakeBoard in = on("end in;goes throw;");
         due(39, "end in", () -> written(in), "last 36;die 1 1 1 1 1 1;end in;pieces 2;goes throw;");
         StringBuilder dense = new StringBuilder("goes 1");
@@ -1017,5 +1036,28 @@ public final class SnakeBoardPromises {
         x.roll(5);
         due(40, "another image", () -> x.restore(), true);
         due(40, "the game", () -> game(x), "3 5 turn 0 throws 2");
+        SnakeBoard y = on("last 20;pieces 1;goes 0;");
+        for (int i = 0; i < 200; i++) {
+            y.roll(1 + i % 6);
+        }
+        for (int i = 0; i < 40; i++) {
+            y.note(0);
+        }
+        y.image();
+        for (int i = 0; i < 40; i++) {
+            y.forget();
+        }
+        for (int i = 0; i < 40; i++) {
+            y.note(1);
+        }
+        for (int i = 0; i < 200; i++) {
+            y.undo();
+        }
+        due(41, "rolls on", () -> y.rolls(5, 200), 200);
+        due(41, "can't be", () -> y.cannot(), 0);
+        y.restore();
+        due(41, "the notes are as they were", () -> y.cannot(), -1);
+        due(41, "the faces are as they were", () -> y.rolled(0, 1) * 10 + y.rolled(199, 1), 12);
+        due(41, "how often", () -> y.often(1) * 100 + y.often(6), 3433);
     }
 }
