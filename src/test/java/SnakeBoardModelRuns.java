@@ -18,7 +18,9 @@ import java.util.concurrent.Callable;
  */
 public final class SnakeBoardModelRuns {
     private static final int RUNS = 260;
-    private static final int CALLS = 420;
+    // an object is used for at most 512 calls: a step takes at most forty, and what is read byte by byte is counted
+    private static final int MOST_CALLS = 512;
+    private static final int CALLS = 460;
 
     public static void main(String[] args) {
         int wrong = 0;
@@ -166,6 +168,9 @@ public final class SnakeBoardModelRuns {
 
         boolean allWritten() {
             String written = model.written();
+            if (done + written.length() + 2 > MOST_CALLS) {
+                return true;
+            }
             if (!same("written(-1)", () -> real.written(-1), () -> written.length())) {
                 return false;
             }
@@ -173,6 +178,7 @@ public final class SnakeBoardModelRuns {
             for (int i = 0; i < written.length(); i++) {
                 got.append((char) real.written(i));
             }
+            done += written.length() - 1;
             return same("written(..)", () -> got.toString(), () -> written)
                     && same("written(length)", () -> real.written(written.length()), () -> {
                         throw new NoSuchElementException();
@@ -283,9 +289,8 @@ public final class SnakeBoardModelRuns {
         }
 
         boolean wholeRow() {
-            for (int i = 0; i < model.row.size(); i++) {
+            for (int i = 0; i < model.row.size() && done < MOST_CALLS; i++) {
                 int at = i;
-                done--;
                 if (!same("row(" + i + ")", () -> real.row(at), () -> model.rowAt(at))) {
                     return false;
                 }

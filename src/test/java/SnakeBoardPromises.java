@@ -1,4 +1,5 @@
 import java.util.ArrayList;
+import java.util.Arrays;
 import java.util.List;
 import java.util.NoSuchElementException;
 import java.util.concurrent.Callable;
@@ -51,9 +52,12 @@ public final class SnakeBoardPromises {
     }
 
     private static String written(SnakeBoard x) {
+        return written(x, 0, x.written(SnakeBoard.NONE));
+    }
+
+    private static String written(SnakeBoard x, int from, int to) {
         StringBuilder text = new StringBuilder();
-        int many = x.written(SnakeBoard.NONE);
-        for (int i = 0; i < many; i++) {
+        for (int i = from; i < to; i++) {
             text.append((char) x.written(i));
         }
         return text.toString();
@@ -489,9 +493,9 @@ public final class SnakeBoardPromises {
         friends.roll(3);
         roll(friends, 3, 3, "3 3 turn 0 throws 2");
         SnakeBoard long200 = on("last 10;pieces 1;goes 0;");
-        for (int i = 1; i <= 200; i++) {
-            roll(long200, 1, 0, "0 turn 0 throws " + i);
-        }
+        long200.rolls(1, 198);
+        roll(long200, 1, 0, "0 turn 0 throws 199");
+        roll(long200, 1, 0, "0 turn 0 throws 200");
         roll(long200, 1, -1, "0 turn 0 throws 200");
         due(8, "STATUS", () -> long200.count(11), 1);
         due(9, "beyond 200", () -> long200.rolls(1, 5), 0);
@@ -1003,9 +1007,12 @@ public final class SnakeBoardPromises {
             dense.append("or1");
             loose.append(" or 1");
         }
-        SnakeBoard longest = on(dense + ";");
-        due(39, "the longest", () -> written(longest),
-                "last 36;die 1 1 1 1 1 1;end stay;pieces 2;" + loose + ";");
+        String longest = "last 36;die 1 1 1 1 1 1;end stay;pieces 2;" + loose + ";";
+        // an object is used for at most 512 calls
+        SnakeBoard first = on(dense + ";");
+        SnakeBoard second = on(dense + ";");
+        due(39, "the longest", () -> written(first, 0, 450) + written(second, 450, longest.length()), longest);
+        due(39, "how many", () -> second.written(-1), longest.length());
     }
 
     private static void images() {
@@ -1037,9 +1044,8 @@ public final class SnakeBoardPromises {
         due(40, "another image", () -> x.restore(), true);
         due(40, "the game", () -> game(x), "3 5 turn 0 throws 2");
         SnakeBoard y = on("last 20;pieces 1;goes 0;");
-        for (int i = 0; i < 200; i++) {
-            y.roll(1 + i % 6);
-        }
+        y.rolls(7, 200);
+        int[] before = {y.often(1), y.often(6), y.rolled(0, 1), y.rolled(199, 1)};
         for (int i = 0; i < 40; i++) {
             y.note(0);
         }
@@ -1057,7 +1063,7 @@ public final class SnakeBoardPromises {
         due(41, "can't be", () -> y.cannot(), 0);
         y.restore();
         due(41, "the notes are as they were", () -> y.cannot(), -1);
-        due(41, "the faces are as they were", () -> y.rolled(0, 1) * 10 + y.rolled(199, 1), 12);
-        due(41, "how often", () -> y.often(1) * 100 + y.often(6), 3433);
+        int[] behind = {y.often(1), y.often(6), y.rolled(0, 1), y.rolled(199, 1)};
+        due(41, "the throws are as they were", () -> Arrays.toString(behind), Arrays.toString(before));
     }
 }
