@@ -711,6 +711,39 @@ public final class SnakeBoardEdges {
             text("meet;last 12;", 1, 5);
             text("last 12;last 9;", 1, 8);
         });
+        test(4, "1 a TOKEN that can't stand there", () -> {
+            text("1", 1, 0);
+            text("in;", 1, 0);
+            text("throw;", 1, 0);
+            text("die meet;", 1, 4);
+            text("exit ;", 1, 5);
+            text("exit 5 (;", 1, 7);
+            text("end (", 1, 4);
+            text("again back;", 1, 6);
+            text("pieces at;", 1, 7);
+            text("last ;", 1, 5);
+            text("last last 10;", 1, 5);
+            text("last 10 20;", 1, 8);
+            text("last 10 meet;", 1, 8);
+            text("goes 1 in;", 1, 7);
+            text("goes 1=;", 1, 7);
+            text("goes (;", 1, 6);
+            text("goes 1 die", 1, 7);
+            text("goes not+1;", 1, 8);
+            text("goes 1 or<1;", 1, 9);
+        });
+        test(4, "2 one that can, but is too much", () -> {
+            text("last 1000;", 2, 5);
+            text("exit 36 36;", 2, 5);
+            text("exit 37 1;", 2, 5);
+            text("exit 9999 1;", 2, 5);
+            text("exit 1 9999;", 2, 7);
+            text("die 1 1 1 1 9999 1;", 2, 12);
+            text("again 9999;", 2, 6);
+            text("pieces 9999;", 2, 7);
+            fine("goes 9999*9999*9999;");
+            fine("last 0100;exit 0099 0100;die 0009 0 0 0 0 0;again 0006;pieces 0004;goes 0000;");
+        });
         test(4, "or is none (the text's length where it ends too soon", () -> {
             text("last", 1, 4);
             text("last 10", 1, 7);
@@ -1313,6 +1346,15 @@ public final class SnakeBoardEdges {
         return text.toString();
     }
 
+    /** The seed that becomes this one: each round doubles how many bits of the inverse of 1103515245 are right. */
+    private static int seedAhead(int next) {
+        int by = 1;
+        for (int i = 0; i < 5; i++) {
+            by *= 2 - 1103515245 * by;
+        }
+        return (next - 12345) * by;
+    }
+
     private static void rollsByASeed() {
         test(9, "a DRAW of all ODDS together, the first FACE by which ODDS together are more", () -> {
             SnakeBoard x = on("last 100;pieces 1;goes 1;");
@@ -1338,6 +1380,17 @@ public final class SnakeBoardEdges {
             most.rolls(MAX, 4);
             // 15929, 4409, 9862, 26718
             due("6651", () -> faces(most, 4));
+        });
+        test(9, "a DRAW of n is its bits 16 to 30 MOD n then", () -> {
+            SnakeBoard x = on("last 100;pieces 1;goes 0;die 9 9 9 9 9 9;");
+            for (int drawn : new int[] {0, 1, 8, 9, 53, 54, 16383, 16384, 32766, 32767}) {
+                for (int high : new int[] {0, MIN}) {
+                    // the seed behind which the next one is this
+                    int next = drawn << 16 | high | 0x1234;
+                    x.rolls(seedAhead(next), 1);
+                    due(1 + drawn % 54 / 9, () -> x.rolled(x.count(6) - 1, 1));
+                }
+            }
         });
         test(9, "THROWS BY A SEED (0 to 200, as long as they can be): how many were done", () -> {
             SnakeBoard x = on("last 10;goes 0;");
@@ -1606,6 +1659,14 @@ public final class SnakeBoardEdges {
             SnakeBoard few = on("last 10;die 1 9 9 9 9 9;goes throw=1;");
             due(true, () -> few.grains(9, 400, 2) >= 0 && few.grains(9, 400, 0) < GRAINS / 1000);
         });
+        test(18, "OUT behind n throws: those that aren't HOME", () -> {
+            SnakeBoard x = on("last 10;");
+            // ahead of the board, on it, in a place from which there is no way
+            due(GRAINS + " " + GRAINS + " 0", () -> x.grains(0, 0, 0) + " " + x.grains(9, 0, 0) + " " + x.grains(10, 0, 0));
+            due(GRAINS - 166666670L, () -> x.grains(9, 1, 0));
+            due(GRAINS - 166666666L, () -> x.grains(4, 1, 0));
+            due(GRAINS, () -> on("last 12;" + SIXES).grains(7, 400, 0));
+        });
         test(18, "those of each SQUARE but HOME are shared out", () -> {
             SnakeBoard x = on("last 12;goes 0-1;");
             due(5 * GRAINS, () -> x.stood(12, 12, 5));
@@ -1659,6 +1720,15 @@ public final class SnakeBoardEdges {
             due("0 " + GRAINS + " 0", () -> six.first(0, 6, 2, 0) + " " + six.first(0, 6, 2, 1) + " "
                     + six.first(0, 6, 2, 2));
             due("0 " + GRAINS, () -> six.first(0, 6, 400, 0) + " " + six.first(7, 6, 1, 1));
+        });
+        test(21, "of the second one likewise by those of the first OUT behind k; neither: what is left", () -> {
+            SnakeBoard six = on("last 18;" + SIXES);
+            // both need three: the first one is HOME when the second throws
+            due("0 0 1000000000", () -> six.first(0, 0, 2, 0) + " " + six.first(0, 0, 2, 1) + " " + six.first(0, 0, 2, 2));
+            due("1000000000 0 0", () -> six.first(0, 0, 3, 0) + " " + six.first(0, 0, 3, 1) + " " + six.first(0, 0, 3, 2));
+            due("0 1000000000 0", () -> six.first(0, 6, 3, 0) + " " + six.first(0, 6, 3, 1) + " " + six.first(0, 6, 3, 2));
+            due("0 0 1000000000", () -> six.first(7, 1, 400, 0) + " " + six.first(7, 1, 400, 1) + " "
+                    + six.first(7, 1, 400, 2));
         });
         test(21, "of all k from 1 to n, together, by 1000000000, cut down", () -> {
             SnakeBoard x = on("last 10;die 1 1 1 0 0 0;");
@@ -1830,6 +1900,14 @@ public final class SnakeBoardEdges {
             due("3 6", () -> x.choose(10, 3, 6, 9) + " " + x.choose(10, 6, 3, 9));
             due("5 5", () -> x.choose(5, 5, 2, 100) + " " + x.choose(5, 2, 5, 100));
         });
+        test(26, "THE CHOICE between two FACES with n throws to come (this one too)", () -> {
+            // a 6 leads from 0 to 6, from which one throw more leads HOME, a 1 to where there is no way
+            SnakeBoard x = on("last 12;" + SIXES);
+            due("1 1 6 6", () -> x.choose(0, 1, 6, 1) + " " + x.choose(0, 1, 6, 2) + " " + x.choose(0, 1, 6, 3) + " "
+                    + x.choose(0, 1, 6, 100));
+            due("6 6 6", () -> x.choose(0, 6, 1, 1) + " " + x.choose(0, 6, 1, 2) + " " + x.choose(0, 6, 1, 3));
+            due("1 6", () -> x.choose(6, 1, 6, 1) + " " + x.choose(6, 1, 6, 2));
+        });
         test(26, "IllegalArgumentException (behind NoSuchElementException): n is not 1 to 100", () -> {
             SnakeBoard x = on(COIN);
             for (int n : new int[] {-1, 0, 101, MIN, MAX}) {
@@ -1848,6 +1926,16 @@ public final class SnakeBoardEdges {
     }
 
     private static void lookedAt() {
+        test(27, "THE DIE is looked at by FACES that were thrown in the GAME: how often each was", () -> {
+            // of all PIECES, FACES without ODDS too; a new GAME begins at 0
+            SnakeBoard x = on("last 10;goes 0;pieces 4;die 0 0 0 0 0 1;");
+            x.roll(1);
+            x.roll(1);
+            x.rolls(1, 3);
+            due("2 3", () -> x.often(1) + " " + x.often(6));
+            readOn(x, "last 10;");
+            due("0 0 -1 0 1", () -> x.often(1) + " " + x.often(6) + " " + x.worn() + " " + x.unlike(0) + " " + x.unlike(1));
+        });
         test(27, "How often a FACE was thrown in the GAME", () -> {
             SnakeBoard x = on("last 10;goes 0;");
             due(0, () -> x.often(1));
@@ -1947,6 +2035,17 @@ public final class SnakeBoardEdges {
             due(40, () -> x.count(8));
             due(39, () -> x.forget());
             due(40, () -> x.note(-1));
+        });
+        test(30, "NOTED are SQUARES (at most 40) of one PIECE, from 0 on, behind each throw one, or a gap", () -> {
+            // they hang on no GAME: one may be noted behind any throw
+            SnakeBoard x = on("last 10;");
+            x.note(6);
+            x.roll(1);
+            due(2, () -> x.note(10));
+            x.undo();
+            due("2 -1", () -> x.count(8) + " " + x.cannot());
+            due(0, () -> noting("last 10;", 7).cannot());
+            due("-1 -1", () -> noting("last 10;", 1).cannot() + " " + noting("last 10;", 6).cannot());
         });
         test(31, "What was NOTED last is forgotten: how many are left. NONE: there is none", () -> {
             SnakeBoard x = on("last 10;");
@@ -2256,6 +2355,11 @@ public final class SnakeBoardEdges {
                             + "die 9 0 1 0 0 0;")));
             due("last 10;die 1 1 1 1 1 1;end in;again 6;pieces 1;", () -> writtenOf(on("last 10;pieces 1;again 6;end in;")));
             due("last 10;die 1 1 1 1 1 1;end stay;meet;pieces 2;", () -> writtenOf(on("last 0010;meet;pieces 0002;")));
+        });
+        test(39, "each as a LINE with its NUMBERS, a blank ahead of each word and NUMBER behind the first word of the LINE", () -> {
+            due("last 20;die 0 1 2 3 4 9;exit 9 10;exit 10 9;exit 1 20;end back;again 2;meet;pieces 3;goes 0001;",
+                    () -> writtenOf(on(" last\n0020 ; die 00 01 2 3 4 0009 ;pieces 03;exit 09 010;exit 010 09;meet ;"
+                            + "goes\n0001\n;again 02;exit 1\n20;end  back  ;")));
         });
         test(39, "a blank between two of them that are words or NUMBERS, nothing else (and one behind 'goes')", () -> {
             String[][] told = {{"( 1 )", "(1)"}, {"1 + 2", "1+2"}, {"not  1", "not 1"}, {"not1", "not 1"},
