@@ -1655,9 +1655,12 @@ public final class SnakeBoardEdges {
             due("285714287 428571428 285714285", () -> x.stood(0, 3, 1) + " " + x.stood(0, 5, 1) + " " + x.stood(0, 6, 1));
             SnakeBoard only = on("last 20;" + SIXES);
             due(GRAINS, () -> only.stood(0, 6, 1));
-            // few that lie there are left whole to the least one
-            SnakeBoard few = on("last 10;die 1 9 9 9 9 9;goes throw=1;");
-            due(true, () -> few.grains(9, 400, 2) >= 0 && few.grains(9, 400, 0) < GRAINS / 1000);
+            // a half stays, cut up: of the last one nothing goes HOME, it stays for ever
+            SnakeBoard few = on("last 10;die 1 1 0 0 0 0;goes throw=2;");
+            due("2 1 1 0", () -> few.grains(9, 29, 0) + " " + few.grains(9, 30, 0) + " " + few.grains(9, 400, 0) + " "
+                    + few.grains(9, 400, 2));
+            // cut down it were 13 less than 2000000000; from the 10th to the 399th throw it is one more each
+            due(2 * GRAINS - 13 + 390, () -> few.grains(9, 400, 1));
         });
         test(18, "OUT behind n throws: those that aren't HOME", () -> {
             SnakeBoard x = on("last 10;");
