@@ -45,7 +45,6 @@ public final class SnakeBoard {
     private final Hopes hopes = new Hopes();
     private final Notes notes = new Notes();
     private final Writer writer = new Writer();
-    private boolean isWritten = false;
 
     public SnakeBoard() {
         startAnew();
@@ -97,7 +96,6 @@ public final class SnakeBoard {
         state.begin(rules.pieces);
         ways.keptLength = NONE;
         hasImage = false;
-        isWritten = false;
     }
 
     public int fault() {
@@ -498,7 +496,7 @@ public final class SnakeBoard {
             return SPENT;
         }
         hopes.lookTogether(rules, paths, n);
-        return hopes.atBoth(rules, one, two);
+        return hopes.atBoth(one, two);
     }
 
     public int whom(int one, int two, int face, int n) throws NoSuchElementException, IllegalArgumentException {
@@ -516,23 +514,20 @@ public final class SnakeBoard {
             return 0;
         }
         hopes.lookTogether(rules, paths, n - 1);
-        long byFirst = hopes.atBoth(rules, paths.to(one, face), two);
-        long bySecond = hopes.atBoth(rules, one, paths.to(two, face));
+        long byFirst = hopes.atBoth(paths.to(one, face), two);
+        long bySecond = hopes.atBoth(one, paths.to(two, face));
         return bySecond < byFirst ? 1 : 0;
     }
 
     public int written(int i) throws NoSuchElementException {
-        if (!isWritten) {
-            writer.write(rules);
-            isWritten = true;
-        }
+        writer.write(rules, i);
         if (i == NONE) {
             return writer.length;
         }
-        if (i < 0 || i >= writer.length || i >= writer.signs.length) {
+        if (i < 0 || i >= writer.length) {
             throw new NoSuchElementException();
         }
-        return writer.signs[i];
+        return writer.wanted;
     }
 
     public void image() {
@@ -1627,7 +1622,7 @@ public final class SnakeBoard {
 
     /** What is AHEAD of one, and TOGETHER of two, with so many throws to come. */
     private static final class Hopes {
-        private static final int MOST_PAIRS = (SPENT_LAST + 1) * (SPENT_LAST + 1);
+        private static final int MOST_PAIRS = (SPENT_LAST + 1) * (SPENT_LAST + 2) / 2;
 
         private long[] now = new long[MOST_PAIRS];
         private long[] next = new long[MOST_PAIRS];
@@ -1636,8 +1631,14 @@ public final class SnakeBoard {
             return i >= 0 && i < now.length ? now[i] : 0;
         }
 
-        long atBoth(Rules rules, int one, int two) {
-            return at(one * (rules.last + 1) + two);
+        /** It is the same whichever of the two is called the first. */
+        private static int pair(int one, int two) {
+            int farther = Math.max(one, two);
+            return farther * (farther + 1) / 2 + Math.min(one, two);
+        }
+
+        long atBoth(int one, int two) {
+            return at(pair(one, two));
         }
 
         private void putNext(int i, long value) {
@@ -1696,10 +1697,7 @@ public final class SnakeBoard {
                 for (int one = 0; one <= home; one++) {
                     for (int two = one; two <= home; two++) {
                         boolean over = one == home && two == home;
-                        long value = over ? 0 : ALL_GRAINS + sumOfBoth(rules, paths, one, two) / all;
-                        // it is the same whichever of the two is called the first
-                        putNext(one * (home + 1) + two, value);
-                        putNext(two * (home + 1) + one, value);
+                        putNext(pair(one, two), over ? 0 : ALL_GRAINS + sumOfBoth(rules, paths, one, two) / all);
                     }
                 }
                 swap();
@@ -1714,8 +1712,8 @@ public final class SnakeBoard {
                 if (odds == 0) {
                     continue;
                 }
-                long byOne = atBoth(rules, paths.to(one, face), two);
-                long byTwo = atBoth(rules, one, paths.to(two, face));
+                long byOne = atBoth(paths.to(one, face), two);
+                long byTwo = atBoth(one, paths.to(two, face));
                 sum += odds * (two == rules.last ? byOne : Math.min(byOne, byTwo));
             }
             return sum;
@@ -1725,11 +1723,15 @@ public final class SnakeBoard {
     /** What NOTED squares tell of the FACES between them. */
     private static final class Notes {
         private static final long MOST_FITS = 1000000000000000000L;
+        private static final int WORDS = MOST_SQUARES / 64 + 1;
 
-        // by how many are still to come and the SQUARE ahead of them
-        private final long[] fitting = new long[(MOST_NOTED + 1) * MOST_SQUARES];
+        // by the SQUARE ahead, in how many ways what is NOTED from a place on could have been thrown
+        private long[] now = new long[MOST_SQUARES];
+        private long[] earlier = new long[MOST_SQUARES];
+        // for each place a bit of each SQUARE ahead: whether there is such a way
+        private final long[] open = new long[(MOST_NOTED + 1) * WORDS];
 
-        /** A gap: of what is noted there nothing is asked. */
+        /** Nothing is asked of a gap, nor of what has one ahead. */
         private static boolean isAsked(State state, int i) {
             return state.noteOf(i) != NONE && (i == 0 || state.noteOf(i - 1) != NONE);
         }
@@ -1764,43 +1766,66 @@ public final class SnakeBoard {
             return many;
         }
 
-        private long fitsFrom(int i, int square) {
-            int at = i * MOST_SQUARES + square;
-            return at >= 0 && at < fitting.length ? fitting[at] : 0;
+        private boolean isOpen(int i, int square) {
+            int word = i * WORDS + square / 64;
+            return square >= 0 && word >= 0 && word < open.length && (open[word] & (1L << (square % 64))) != 0;
         }
 
-        private void putFits(int i, int square, long many) {
-            int at = i * MOST_SQUARES + square;
-            if (at >= 0 && at < fitting.length) {
-                fitting[at] = many;
+        private void setOpen(int i, int square) {
+            int word = i * WORDS + square / 64;
+            if (square >= 0 && word >= 0 && word < open.length) {
+                open[word] |= 1L << (square % 64);
             }
         }
 
         long countFits(State state, Rules rules, Paths paths) {
+            Arrays.fill(open, 0);
             for (int square = 0; square <= rules.last; square++) {
-                putFits(state.noted, square, 1);
+                putEarlier(state.noted, square, 1);
             }
+            swap();
             for (int i = state.noted - 1; i >= 0; i--) {
                 for (int square = 0; square <= rules.last; square++) {
-                    putFits(i, square, sumOfFaces(state, rules, paths, i, square));
+                    putEarlier(i, square, sumOfFaces(state, rules, paths, i, square));
                 }
+                swap();
             }
-            return fitsFrom(0, 0);
+            return ways(0);
+        }
+
+        private void putEarlier(int i, int square, long many) {
+            if (square >= 0 && square < earlier.length) {
+                earlier[square] = many;
+            }
+            if (many > 0) {
+                setOpen(i, square);
+            }
+        }
+
+        private void swap() {
+            long[] old = now;
+            now = earlier;
+            earlier = old;
+        }
+
+        private long ways(int square) {
+            return square >= 0 && square < now.length ? now[square] : 0;
         }
 
         private long sumOfFaces(State state, Rules rules, Paths paths, int i, int square) {
             long sum = 0;
             for (int face = 1; face <= FACES; face++) {
-                if (rules.oddsOf(face) > 0) {
-                    sum += fitsBy(state, i, paths.to(square, face));
+                int to = paths.to(square, face);
+                if (rules.oddsOf(face) > 0 && isAsNoted(state, i, to)) {
+                    sum += ways(to);
                 }
             }
             return Math.min(sum, MOST_FITS);
         }
 
-        private long fitsBy(State state, int i, int to) {
+        private static boolean isAsNoted(State state, int i, int square) {
             int noted = state.noteOf(i);
-            return noted == NONE || noted == to ? fitsFrom(i + 1, to) : 0;
+            return noted == NONE || noted == square;
         }
 
         /** Needs countFits() ahead of it; answers how many FACES were put. */
@@ -1809,7 +1834,7 @@ public final class SnakeBoard {
             for (int i = 0; i < state.noted && i < faces.length; i++) {
                 for (int face = 1; face <= FACES; face++) {
                     int to = paths.to(square, face);
-                    if (rules.oddsOf(face) > 0 && fitsBy(state, i, to) > 0) {
+                    if (rules.oddsOf(face) > 0 && isAsNoted(state, i, to) && isOpen(i + 1, to)) {
                         faces[i] = face;
                         square = to;
                         break;
@@ -1820,17 +1845,17 @@ public final class SnakeBoard {
         }
     }
 
-    /** The board as a TEXT. */
+    /** The board as a TEXT, of which one byte is wanted: it is short enough to be written anew for each. */
     private static final class Writer {
         int length = 0;
-        // all LINES but the last take 344 bytes at most, that one what a formula keeps, and 6
-        final char[] signs = new char[2 * MOST_BYTES + 400];
+        char wanted = 0;
+        private int wantedPlace = NONE;
 
         private void put(char sign) {
-            if (length >= 0 && length < signs.length) {
-                signs[length] = sign;
-                length++;
+            if (length == wantedPlace) {
+                wanted = sign;
             }
+            length++;
         }
 
         private void putText(String text) {
@@ -1856,8 +1881,9 @@ public final class SnakeBoard {
             put(';');
         }
 
-        void write(Rules rules) {
+        void write(Rules rules, int place) {
             length = 0;
+            wantedPlace = place;
             putLine("last", rules.last);
             putText("die");
             for (int face = 1; face <= FACES; face++) {

@@ -1,4 +1,5 @@
 import java.io.IOException;
+import java.lang.reflect.Array;
 import java.lang.reflect.Constructor;
 import java.lang.reflect.Field;
 import java.lang.reflect.Method;
@@ -6,6 +7,8 @@ import java.lang.reflect.Modifier;
 import java.nio.charset.StandardCharsets;
 import java.nio.file.Files;
 import java.nio.file.Path;
+import java.util.Collections;
+import java.util.IdentityHashMap;
 import java.util.Set;
 import java.util.TreeSet;
 
@@ -22,6 +25,9 @@ public final class SnakeBoardForm {
         "long together(int,int,int)", "int whom(int,int,int,int)", "int written(int)", "void image()", "boolean restore()"};
     private static final String[] NOT_ALLOWED = {"->", "::", "finally", "synchronized", "assert", "catch", "Exact(",
         "double", "float", "static {", "protected", "System.out", "Object", "\t", "@"};
+    // what all calls of one run may make, if each of them makes an object of the class
+    private static final long MOST_OBJECTS = 600_000 / 513;
+    private static final long MOST_ELEMENTS = 7_300_000 / 513;
     private static int wrong = 0;
 
     private static void due(String what, Object got, Object want) {
@@ -35,6 +41,8 @@ public final class SnakeBoardForm {
         checkFace();
         checkInnerClasses();
         checkText();
+        checkFaceWordForWord();
+        checkRoom();
         System.out.println("form: " + wrong + " wrong");
         if (wrong != 0) {
             System.exit(1);
@@ -99,5 +107,58 @@ public final class SnakeBoardForm {
         due("signs of ASCII alone", text.chars().allMatch(c -> c < 128), true);
         due("the imports", code.split("import ").length - 1, 2);
         due("a package", code.contains("package "), false);
+        for (String line : code.split("\n")) {
+            boolean isField = line.matches(" +(private )?(static )?(final )?[\\w\\[\\]]+ \\w+ = new .*;");
+            due(line.trim() + " makes an object", line.contains("new ") && !line.contains("throw new ") && !isField, false);
+        }
+    }
+
+    private static void checkFaceWordForWord() throws IOException {
+        String document = Files.readString(Path.of("../shared/DOC.md"), StandardCharsets.UTF_8);
+        String code = Files.readString(Path.of("src/main/java/SnakeBoard.java"), StandardCharsets.ISO_8859_1);
+        String face = document.substring(document.indexOf("public final class SnakeBoard"), document.indexOf("## Terms"));
+        int lines = 0;
+        for (String line : face.split("\n")) {
+            if (line.startsWith("    public ")) {
+                lines++;
+                String told = line.contains("(") ? line.replace(";", " {") : line;
+                due("the class has" + line, code.contains("\n" + told + "\n"), true);
+            }
+        }
+        due("lines of the face", lines, FACE.length + 2);
+    }
+
+    private static void checkRoom() throws IOException {
+        Set<Object> seen = Collections.newSetFromMap(new IdentityHashMap<>());
+        long[] made = new long[2];
+        try {
+            countRoom(new SnakeBoard(), seen, made);
+        } catch (IllegalAccessException e) {
+            due("the room can be counted", false, true);
+        }
+        due(made[0] + " objects", made[0] > 1 && made[0] <= MOST_OBJECTS, true);
+        due(made[1] + " fields and elements", made[1] > 1 && made[1] <= MOST_ELEMENTS, true);
+    }
+
+    /** Objects and arrays, and their fields and elements, each once. */
+    private static void countRoom(Object one, Set<Object> seen, long[] made) throws IllegalAccessException {
+        if (one == null || !seen.add(one)) {
+            return;
+        }
+        made[0]++;
+        if (one.getClass().isArray()) {
+            made[1] += Array.getLength(one);
+            return;
+        }
+        for (Field field : one.getClass().getDeclaredFields()) {
+            if (Modifier.isStatic(field.getModifiers())) {
+                continue;
+            }
+            made[1]++;
+            if (!field.getType().isPrimitive()) {
+                field.setAccessible(true);
+                countRoom(field.get(one), seen, made);
+            }
+        }
     }
 }

@@ -896,6 +896,34 @@ public final class SnakeBoardPromises {
         y.note(20);
         due(33, "none fits", () -> y.fits(), 0);
         due(33, "what is kept stays", () -> row(y, 2), "[2, 3]");
+        fittingFarOn();
+        fittingAnew();
+    }
+
+    /** The 1 leads far on, from where what is noted can't be reached, the 2 near. */
+    private static void fittingFarOn() {
+        for (int far : new int[] {36, 64, 68, 99, 100}) {
+            SnakeBoard x = on("last 100;goes (throw=1)*" + far + "+(throw=2)*" + far % 32 + ";");
+            x.note(-1);
+            x.note(2 * (far % 32));
+            // with 64 five faces stay on 0, both times
+            int want = far == 64 ? 25 : 1;
+            due(33, "fits() with " + far, () -> x.fits(), want);
+            due(14, "the first row with " + far, () -> row(x, 2), "[2, 2]");
+        }
+    }
+
+    /** What fitted before doesn't count. */
+    private static void fittingAnew() {
+        SnakeBoard x = on("last 100;goes (throw=1)*36+(throw=2)*4;");
+        x.note(-1);
+        x.note(40);
+        due(33, "by 36 and 4, by 4 and 36", () -> x.fits(), 2);
+        due(14, "the first row", () -> row(x, 2), "[1, 2]");
+        x.forget();
+        x.note(8);
+        due(33, "by 4 and 4", () -> x.fits(), 1);
+        due(14, "the first row", () -> row(x, 2), "[2, 2]");
     }
 
     private static void drawn() {
